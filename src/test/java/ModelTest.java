@@ -16,6 +16,8 @@ public final class ModelTest {
     private final StringBuilder told = new StringBuilder();
     private TurnWheel x = new TurnWheel();
     private Model m = new Model();
+    /** A fight with few hits and without rests, so that all comes again in many of them. */
+    private boolean calm = false;
 
     private ModelTest(long seed) {
         lot = new Random(seed);
@@ -79,7 +81,10 @@ public final class ModelTest {
     }
 
     private String act() {
-        int kind = chance(45) ? 0 : below(7);
+        int kind = chance(calm ? 5 : 40) ? 0 : below(7);
+        if (calm && kind == 6) {
+            kind = 1;
+        }
         int most = Model.MOST[kind];
         int n = chance(3) ? 1 + below(most) : 1 + below(Math.min(most, kind == 0 || kind == 6 ? 25 : 200));
         return Model.ACTS.get(kind) + " " + n;
@@ -87,17 +92,19 @@ public final class ModelTest {
 
     private String text() {
         StringBuilder all = new StringBuilder();
+        calm = chance(30);
         int fighters = chance(70) ? 2 + below(4) : below(9);
         int wheelAt = chance(70) ? below(fighters + 1) : -1;
         int first = below(NAMES.length);
-        int life = chance(20) ? 999 : 5 + below(120);
+        int life = chance(30) ? 999 : 5 + below(200);
+        boolean mixed = chance(20);
         for (int i = 0; i <= fighters; i++) {
             if (i == wheelAt) {
                 all.append("wheel ").append(100 + (chance(60) ? below(100) : below(900))).append(";");
             }
             if (i < fighters) {
                 all.append("fighter ").append(NAMES[(first + i) % NAMES.length])
-                        .append(chance(50) ? " left" : " right").append(" speed").append(1 + below(chance(50) ? 20 : 99))
+                        .append((mixed ? chance(50) : i % 2 == 0) ? " left" : " right").append(" speed").append(1 + below(chance(50) ? 20 : 99))
                         .append(" life").append(1 + below(life));
                 if (chance(40)) {
                     all.append(" luck").append(below(10));
@@ -136,7 +143,7 @@ public final class ModelTest {
             String word = pick(WORDS);
             all.append(word);
             if (word.equals("repeat")) {
-                all.append(' ').append(1 + below(20)).append("(");
+                all.append(' ').append(chance(3) ? 21 * below(2) : 1 + below(20)).append("(");
                 if (depth < 2 || chance(10)) {
                     commands(all, depth + 1, told);
                 }
