@@ -696,14 +696,11 @@ public final class TurnWheel {
                 return nobody;
             }
             Fighter who = firstWithExtra();
-            if (who == nobody) {
-                who = firstReady();
+            if (who != nobody) {
+                return who;
             }
-            if (who == nobody) {
-                pass(ticksToFirst());
-                who = firstReady();
-            }
-            return who;
+            pass(ticksToFirst());
+            return firstReady();
         }
 
         private Fighter firstWithExtra() {

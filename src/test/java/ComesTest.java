@@ -95,6 +95,7 @@ public final class ComesTest {
         hit.play(2);
         CHECK.same("one who falls loses its extra turns", hit.fighter(2, 6), 0);
         CHECK.same("the life that was lost, no more than there was", hit.fighter(0, 11), 4);
+        fallen();
         TurnWheel guard = Check.of("wheel 100;fighter a left speed 50 life 9 plan hit 5 hit 9;"
                 + "fighter b right speed 99 life 90 plan guard 6;");
         rowOf("guard: nothing, then what is above it", n -> guard.lifeIn(1, n), 90, 90, 90, 90, 90, 87);
@@ -103,6 +104,9 @@ public final class ComesTest {
                 + "fighter d right speed 45 life 4 plan hit 1;");
         CHECK.same("push: the greatest gauge, the lowest number", push.gaugeIn(2, 1), 20);
         CHECK.same("push: not the next one", push.gaugeIn(3, 1), 90);
+        TurnWheel back = Check.of("wheel 100;fighter b right speed 60 life 9 plan push 70;"
+                + "fighter a left speed 30 life 1 plan hit 1;fighter c left speed 45 life 1 plan hit 1;");
+        CHECK.same("push by the other side", back.gaugeIn(2, 1), 20);
         push.setAct(0, 0, 1, 999);
         CHECK.same("push: not below 0", push.gaugeIn(2, 1), 0);
         TurnWheel lift = Check.of("wheel 100;fighter a left speed 60 life 9 plan lift 70;"
@@ -129,6 +133,36 @@ public final class ComesTest {
         rowOf("rest: at most 999", n -> rest.lifeIn(0, n), 950, 990, 990, 999);
         rowOf("speed: from then on", rest::turnTime, 2, 4, 6, 7, 8);
         CHECK.same("a guard lasts until its turn", guardLost(), 2);
+    }
+
+    private static void fallen() {
+        TurnWheel x = Check.of("wheel 100;fighter a left speed 10 life 9 plan hit 99;"
+                + "fighter b right speed 40 life 1 plan guard 6;fighter c right speed 20 life 1 plan guard 7;"
+                + "fighter d left speed 30 life 1 plan lift 50;");
+        x.lift(1, 100);
+        x.play(1);
+        x.extra(1);
+        x.extra(0);
+        x.lift(1, 30);
+        CHECK.same("b has a guard", x.fighter(1, 5), 6);
+        x.play(1);
+        int[] due = {1, 40, 0, 0, 0, 0, 0, 0};
+        for (int i = 0; i < due.length; i++) {
+            CHECK.same("one who falls: " + i, x.fighter(1, i), due[i]);
+        }
+        CHECK.same("a fight of those with a life of 1", x.turn(0), 3);
+        CHECK.same("it is made", x.play(1), 1);
+        CHECK.same("one who fell gains no gauge", x.fighter(1, 4), 0);
+        CHECK.same("one with a life of 1 gains", x.fighter(2, 4), 80);
+        CHECK.same("lift of the other who lives", x.fighter(0, 4), 90);
+        CHECK.same("those who live", x.setting(4), 3);
+        CHECK.same("their mean speed", x.meanSpeed(), 20.0);
+        CHECK.same("the row of them", x.row(0) * 100 + x.row(1) * 10 + x.row(2), 23);
+        CHECK.yes("an extra turn for one with a life of 1", x.extra(3));
+        CHECK.same("it makes it", x.turn(0), 3);
+        CHECK.same("bestPush of one with a life of 1", x.bestPush(0, 1), 2);
+        Check.script(x, "extra c;turn 2;");
+        CHECK.same("the other side's guard", x.fighter(2, 5), 7);
     }
 
     private static int guardLost() {
@@ -258,6 +292,23 @@ public final class ComesTest {
         CHECK.same("until the life is full", Check.of("wheel 100;fighter a left speed 50 life 949 plan rest 1;"
                 + "fighter b right speed 50 life 9 plan guard 5;").repeatIn(), 101);
         turnsApart();
+        onlyTheSpeed();
+    }
+
+    private static void onlyTheSpeed() {
+        TurnWheel x = Check.of("wheel 100;fighter a left speed 10 life 9 plan lift 1;"
+                + "fighter b right speed 10 life 9 plan speed 50;");
+        CHECK.same("all must be the same: speed", x.repeatIn(), 8);
+        CHECK.same("cycle alone", Check.of("wheel 100;fighter a left speed 10 life 9 plan lift 1;"
+                + "fighter b right speed 10 life 9 plan speed 50;").cycle(), 6);
+        x.setAct(1, 0, 6, 1);
+        CHECK.same("cycle is of now", x.cycle(), -1);
+        TurnWheel self = Check.of("wheel 100;fighter a left speed 10 life 9 plan again 1;"
+                + "fighter b right speed 1 life 9 plan lift 1;");
+        CHECK.same("one turn that leaves all as it is", self.repeatIn(), 2);
+        CHECK.same("a cycle of one turn", self.cycle(), 1);
+        self.play(1);
+        CHECK.same("one turn that leaves all as it is now", self.repeatIn(), 1);
     }
 
     private static void turnsApart() {
@@ -295,6 +346,12 @@ public final class ComesTest {
         team.setSpeed(1, 99);
         team.heal(1, 100);
         CHECK.same("leastSpeed of one who does not live, its side wins", team.leastSpeed(2), 1);
+        TurnWheel race = Check.of("wheel 198;fighter b right speed 1 life 9 plan hit 9;"
+                + "fighter a left speed 99 life 9 plan hit 9;");
+        CHECK.same("leastSpeed 99", race.leastSpeed(0), 99);
+        race.push(0, 1);
+        race.lift(1, 1);
+        CHECK.same("leastSpeed of more than 99", race.leastSpeed(0), -1);
         CHECK.same("within 200 turns", Check.of(longFight(100)).leastSpeed(1), 50);
         CHECK.same("never so within 200", Check.of(longFight(999)).leastSpeed(1), -1);
     }
@@ -342,12 +399,37 @@ public final class ComesTest {
         y.lift(1, 90);
         y.lift(3, 50);
         CHECK.same("bestSwap: the lowest number of several", y.bestSwap(2), 0);
+        swapsOfSome();
         TurnWheel dead = Check.of("wheel 100;fighter a left speed 50 life 5 plan hit 1;"
                 + "fighter b left speed 5 life 100 plan hit 50;fighter c right speed 99 life 40 plan hit 5;");
         dead.play(1);
         CHECK.same("a does not live", dead.fighter(0, 2), 0);
         CHECK.same("bestSwap of one who does not live", dead.bestSwap(0), -1);
         CHECK.same("bestSwap with one who does not live", dead.bestSwap(1), -1);
+    }
+
+    private static void swapsOfSome() {
+        TurnWheel x = Check.of("wheel 100;fighter d left speed 10 life 1 plan guard 1;"
+                + "fighter a left speed 10 life 1 plan guard 1;fighter b left speed 10 life 1 plan hit 50;"
+                + "fighter c right speed 10 life 1 plan hit 9;");
+        x.lift(1, 90);
+        x.lift(3, 50);
+        CHECK.same("bestSwap: not with d, who is as late", x.bestSwap(2), 1);
+        CHECK.same("bestSwap of a with b alone", x.bestSwap(1), 2);
+        x.push(3, 50);
+        x.lift(3, 95);
+        CHECK.same("bestSwap: c is too soon for all of them", x.bestSwap(2), -1);
+        // b's guard would hold off c's hit if b came later; the one who fell has the gauge for it
+        TurnWheel y = Check.of("wheel 100;fighter a left speed 1 life 1 plan rest 1;"
+                + "fighter b left speed 10 life 500 luck 1 plan guard 50 lift 1;"
+                + "fighter c right speed 10 life 500 plan hit 40 hit 40 rest 1 rest 1 rest 1 rest 1;");
+        CHECK.same("a falls, b guards", Check.script(y, "lift c 100;turn 1;lift b 100;turn 1;lift b 100;lift c 100;"), 6);
+        CHECK.same("b has its guard", y.fighter(1, 5), 50);
+        CHECK.same("the hits that come", y.lifeIn(1, 20), 420);
+        CHECK.same("bestSwap with one who fell", y.bestSwap(1), -1);
+        CHECK.same("bestSwap of one who fell", y.bestSwap(0), -1);
+        y.push(1, 100);
+        CHECK.same("it would be better so", y.lifeIn(1, 20), 460);
     }
 
     private static void places() {

@@ -11,6 +11,7 @@ public final class KeptTest {
         undoOfAll();
         undoOfScripts();
         sixAtMost();
+        sixOfMany();
         forgetting();
         saving();
         restoring();
@@ -20,12 +21,19 @@ public final class KeptTest {
     private static void reports() {
         TurnWheel x = Check.of(DUEL);
         CHECK.same("report", Check.reportOf(x), "ann 20/0*\nb 12/0\n");
+        x.play(2);
+        CHECK.same("report of the next one", Check.reportOf(x), "ann 20/0\nb 2/100*\n");
+        x.undo();
         x.extra(1);
         x.extra(1);
         CHECK.same("report of extra turns", Check.reportOf(x), "ann 20/0\nb 12/0++*\n");
         x.lift(0, 999);
         x.heal(1, 999);
         x.extra(1);
+        TurnWheel round = Check.of("fighter a left speed 1 life 10 plan rest 1;fighter b right speed 1 life 100 plan rest 1;");
+        round.lift(0, 100);
+        round.lift(1, 10);
+        CHECK.same("report of round numbers", Check.reportOf(round), "a 10/100*\nb 100/10\n");
         CHECK.same("report of long numbers", Check.reportOf(x), "ann 20/999\nb 999/0+++*\n");
         x.lift(0, 1);
         CHECK.same("report of 1000", Check.reportOf(x), "ann 20/1000\nb 999/0+++*\n");
@@ -161,6 +169,21 @@ public final class KeptTest {
         }
         CHECK.same("the oldest two stay", x.fighter(0, 4), 2);
         CHECK.same("no more", x.undo(), -1);
+    }
+
+    private static void sixOfMany() {
+        TurnWheel x = Check.of(DUEL);
+        for (int round = 1; round <= 3; round++) {
+            x.push(0, 999);
+            for (int n = 1; n <= 6 + round; n++) {
+                x.lift(0, 1);
+            }
+            for (int n = 5 + round; n >= round; n--) {
+                x.undo();
+                CHECK.same("undo leaves the gauge", x.fighter(0, 4), n);
+            }
+            CHECK.same("no more than six", x.undo(), -1);
+        }
     }
 
     private static void forgetting() {

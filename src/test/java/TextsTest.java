@@ -110,6 +110,13 @@ public final class TextsTest {
         CHECK.same("a second text: the wheel", z.setting(1), 300);
         CHECK.same("a second text: nothing to undo", z.setting(9), 0);
         CHECK.same("a second text: its fighter", z.letter(0, 0), 'b');
+        for (int f = 0; f < 2; f++) {
+            for (int i = 0; i < 12; i++) {
+                CHECK.same("a second text is as a first", z.fighter(f, i), Check.of(BOB + ANN).fighter(f, i));
+                CHECK.same("a second text's acts", z.actKind(f, i), Check.of(BOB + ANN).actKind(f, i));
+                CHECK.same("a second text's names", z.letter(f, i), Check.of(BOB + ANN).letter(f, i));
+            }
+        }
         CHECK.same("a second text: gauges", z.fighter(0, 4), 0);
         CHECK.same("a second text: turns of a fighter", z.fighter(0, 9), 0);
         CHECK.same("a second text: the report stays", z.reportByte(0), 'a');
@@ -357,6 +364,12 @@ public final class TextsTest {
         CHECK.same("30 commands, \"repeat\" too", Check.script(Check.of(ANN + BOB), full + "););"), 40);
         wrongScript(full + "turn 1;", 5, full.length());
         wrongScript(full + "repeat 1(", 3, full.length());
+        CHECK.same("15 \"repeat\"s", Check.script(Check.of(ANN + BOB), "repeat 2(heal bob 1;);".repeat(15)), 30);
+        TurnWheel open = Check.of(ANN + BOB);
+        Check.fed(open, "repeat 2(repeat 2(heal bob 1;");
+        CHECK.argument("two \"repeat\"s that are not closed", open::runScript);
+        CHECK.same("a script behind it", Check.script(open, "repeat 2(repeat 2(heal bob 1;););heal bob 2;"), 5);
+        CHECK.same("a script behind it: bob", open.fighter(1, 2), 46);
         CHECK.same("30 \"repeat\"s", Check.script(Check.of(ANN + BOB), "repeat 2(repeat 3(););".repeat(15)), 0);
     }
 
