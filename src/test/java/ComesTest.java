@@ -119,6 +119,9 @@ public final class ComesTest {
                 + "fighter b left speed 1 life 7 plan rest 1;fighter e right speed 1 life 4 plan hit 1;");
         Check.script(full, "repeat 10(lift b 999;);repeat 3(extra a;);");
         rowOf("lift: at most 9999", n -> full.gaugeIn(1, n), 9990, 9999, 9999);
+        TurnWheel weak = Check.of("wheel 100;fighter a left speed 60 life 9 plan lift 70;"
+                + "fighter b left speed 30 life 1 plan hit 1;fighter e right speed 1 life 4 plan hit 1;");
+        CHECK.same("lift: one with a life of 1", weak.gaugeIn(1, 1), 130);
         TurnWheel alone = Check.of("wheel 100;fighter a left speed 60 life 9 plan lift 9;"
                 + "fighter b right speed 1 life 7 plan rest 1;");
         CHECK.same("lift: nothing without another", alone.gaugeIn(0, 1), 20);
