@@ -24,7 +24,7 @@ public final class ModelTest {
     }
 
     public static void main(String[] args) {
-        int runs = args.length > 0 ? Integer.parseInt(args[0]) : 500;
+        int runs = args.length > 0 ? Integer.parseInt(args[0]) : 300;
         long from = args.length > 1 ? Long.parseLong(args[1]) : 0;
         int calls = 0;
         for (long seed = from; seed < from + runs; seed++) {
