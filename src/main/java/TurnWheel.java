@@ -503,8 +503,11 @@ public final class TurnWheel {
             gauge = Math.max(gauge - by, 0);
         }
 
+        /** Where no fighter is, there is nothing to be lifted. */
         void gainGauge(int by) {
-            gauge = Math.min(gauge + by, MOST_GAUGE);
+            if (life > 0) {
+                gauge = Math.min(gauge + by, MOST_GAUGE);
+            }
         }
 
         void gainExtras(int by) {
@@ -766,7 +769,7 @@ public final class TurnWheel {
                     fullest(1 - who.side).loseGauge(amount);
                     break;
                 case Acts.LIFT:
-                    liftFriend(who, amount);
+                    emptiestFriend(who).gainGauge(amount);
                     break;
                 case Acts.GUARD:
                     who.guard = amount;
@@ -805,16 +808,15 @@ public final class TurnWheel {
             return best;
         }
 
-        private void liftFriend(Fighter who, int by) {
+        /** Nobody if there is no other. */
+        private Fighter emptiestFriend(Fighter who) {
             Fighter best = nobody;
             for (Fighter f : all) {
                 if (f != who && f.life > 0 && f.side == who.side && (best == nobody || f.gauge < best.gauge)) {
                     best = f;
                 }
             }
-            if (best != nobody) {
-                best.gainGauge(by);
-            }
+            return best;
         }
 
         /** How many turns were made: fewer than asked if the fight is over before. */
@@ -859,11 +861,12 @@ public final class TurnWheel {
         }
 
         int timeOf(Fight now, int turn) {
-            return actorOf(now, turn) == later.nobody ? NONE : later.time;
+            Fighter who = afterTurns(now, turn).bringNext();
+            return who == later.nobody ? NONE : later.time;
         }
 
         int kindOf(Fight now, int turn) {
-            Fighter who = actorOf(now, turn);
+            Fighter who = afterTurns(now, turn).bringNext();
             return who.kindAt(who.place);
         }
 

@@ -12,19 +12,23 @@ public final class ModelTest {
         "3", "4", "20", "21", "99", "100", "999", "1000", "abcdefghi", "A", "\t", "\n", " ", "ann", "bob", "zed",
         "\u00e9", "0001", "007"};
 
+    /** What later calls of an object answer is free. */
+    private static final int MOST_CALLS = 512;
+
     private final Random lot;
     private final StringBuilder told = new StringBuilder();
     private TurnWheel x = new TurnWheel();
     private Model m = new Model();
     /** A fight with few hits and without rests, so that all comes again in many of them. */
     private boolean calm = false;
+    private int made = 0;
 
     private ModelTest(long seed) {
         lot = new Random(seed);
     }
 
     public static void main(String[] args) {
-        int runs = args.length > 0 ? Integer.parseInt(args[0]) : 300;
+        int runs = args.length > 0 ? Integer.parseInt(args[0]) : 400;
         long from = args.length > 1 ? Long.parseLong(args[1]) : 0;
         int calls = 0;
         for (long seed = from; seed < from + runs; seed++) {
@@ -35,11 +39,10 @@ public final class ModelTest {
 
     private int run() {
         load(text());
-        int calls = 20 + lot.nextInt(150);
-        for (int n = 0; n < calls; n++) {
+        while (made < MOST_CALLS) {
             call();
         }
-        return calls;
+        return made;
     }
 
     private static String answer(Supplier<Object> call) {
@@ -51,6 +54,10 @@ public final class ModelTest {
     }
 
     private void both(String what, Supplier<Object> program, Supplier<Object> model) {
+        if (made == MOST_CALLS) {
+            return;
+        }
+        made++;
         String got = answer(program);
         String due = answer(model);
         told.append(what).append(" -> ").append(got).append('\n');
@@ -219,7 +226,7 @@ public final class ModelTest {
         } else {
             whole();
         }
-        everything();
+        look();
     }
 
     private void change() {
@@ -329,27 +336,31 @@ public final class ModelTest {
         }
     }
 
-    /** All that can be seen of what is there. */
-    private void everything() {
-        int before = told.length();
-        for (int i = -1; i <= 10; i++) {
-            int what = i;
-            both("setting(" + i + ")", () -> x.setting(what), () -> m.setting(what));
-        }
-        for (int i = -1; i <= m.s.all.size(); i++) {
-            int f = i;
-            both("row(" + i + ")", () -> x.row(f), () -> m.row(f));
-            both("ticksTo(" + i + ")", () -> x.ticksTo(f), () -> m.ticksTo(f));
-            for (int k = -1; k <= 12; k++) {
-                int what = k;
-                both("fighter(" + i + "," + k + ")", () -> x.fighter(f, what), () -> m.fighter(f, what));
-                both("actKind(" + i + "," + k + ")", () -> x.actKind(f, what), () -> m.actKind(f, what));
-                both("actNumber(" + i + "," + k + ")", () -> x.actNumber(f, what), () -> m.actNumber(f, what));
-                both("letter(" + i + "," + k + ")", () -> x.letter(f, what), () -> m.letter(f, what));
+    /** A few numbers of what is there. */
+    private void look() {
+        for (int n = 0; n < 4; n++) {
+            int f = who();
+            int k = number(0, 11);
+            switch (below(4)) {
+                case 0: both("setting(" + k + ")", () -> x.setting(k), () -> m.setting(k)); break;
+                case 1: lookAtPlan(f, below(8) - 1); break;
+                default: both("fighter(" + f + "," + k + ")", () -> x.fighter(f, k), () -> m.fighter(f, k)); break;
             }
         }
-        both("meanSpeed()", () -> x.meanSpeed(), () -> m.meanSpeed());
-        both("share()", () -> x.share(), () -> m.share());
-        told.setLength(before);
+        int i = number(0, 7);
+        switch (below(4)) {
+            case 0: both("row(" + i + ")", () -> x.row(i), () -> m.row(i)); break;
+            case 1: both("ticksTo(" + i + ")", () -> x.ticksTo(i), () -> m.ticksTo(i)); break;
+            case 2: both("meanSpeed()", () -> x.meanSpeed(), () -> m.meanSpeed()); break;
+            default: both("share()", () -> x.share(), () -> m.share()); break;
+        }
+    }
+
+    private void lookAtPlan(int f, int i) {
+        switch (below(3)) {
+            case 0: both("actKind(" + f + "," + i + ")", () -> x.actKind(f, i), () -> m.actKind(f, i)); break;
+            case 1: both("actNumber(" + f + "," + i + ")", () -> x.actNumber(f, i), () -> m.actNumber(f, i)); break;
+            default: both("letter(" + f + "," + i + ")", () -> x.letter(f, i), () -> m.letter(f, i)); break;
+        }
     }
 }
