@@ -43,7 +43,7 @@ public final class Promises08To16Test extends Run {
         due(x.setting(7), 0);
         x.heal(1, 1);
         due(x.setting(7), -1);
-        text(x, DUEL.replace("left", "up").replace("right", "left").replace("up", "right"));
+        text(x, mirrored(DUEL));
         x.play(4);
         due(x.setting(7), 1);
     }

@@ -260,7 +260,7 @@ public final class Promises17To32Test extends Run {
     @Sentence("Promise 25: Returns the side that wins within 200 turns that come (or has won)")
     static void whoWins(TurnWheel x) {
         due(of(SOLE).winner(), 1);
-        due(of(SOLE.replace("right", "left")).winner(), 0);
+        due(of(mirrored(SOLE)).winner(), 0);
         text(x, DUEL);
         due(x.winner(), 0);
         x.setSpeed(1, 84);
@@ -510,9 +510,10 @@ public final class Promises17To32Test extends Run {
     // ---- 30
 
     /** Fighter a makes so many turns at once; then it is c's turn. What the push of c changes is seen behind that. */
-    private static TurnWheel pushAfter(int turns) {
-        TurnWheel x = of("wheel 100;fighter a left speed 1 life 900 plan speed 1;"
-                + "fighter b right speed 1 life 900 plan speed 1;fighter c right speed 1 life 900 plan hit 50;");
+    private static TurnWheel pushAfter(int turns, boolean isMirrored) {
+        String text = "wheel 100;fighter a left speed 1 life 900 plan speed 1;"
+                + "fighter b right speed 1 life 900 plan speed 1;fighter c right speed 1 life 900 plan hit 50;";
+        TurnWheel x = of(isMirrored ? mirrored(text) : text);
         script(x, lifts("a", 100 * turns) + lifts("c", 100));
         due(x.turn(turns - 1), 0);
         due(x.turn(turns), 2);
@@ -521,9 +522,11 @@ public final class Promises17To32Test extends Run {
 
     @Sentence("Promise 30: so that a side has the most life in all behind 20 turns that come")
     static void whomToPush20TurnsAhead(TurnWheel x) {
-        due(pushAfter(18).bestPush(0, 100), 2);
-        due(pushAfter(19).bestPush(0, 100), 2);
-        due(pushAfter(20).bestPush(0, 100), 1);
+        due(pushAfter(18, false).bestPush(0, 100), 2);
+        due(pushAfter(19, false).bestPush(0, 100), 2);
+        due(pushAfter(20, false).bestPush(0, 100), 1);
+        due(pushAfter(19, true).bestPush(1, 100), 2);
+        due(pushAfter(20, true).bestPush(1, 100), 1);
     }
 
     @Sentence("Promise 30: whose gauge would have to be less by so much now (not below 0)")
@@ -624,9 +627,10 @@ public final class Promises17To32Test extends Run {
     // ---- 31
 
     /** Fighter e makes so many turns at once; then it is c's turn, or a's, who rests, if it has the gauge of c. */
-    private static TurnWheel swapAfter(int turns) {
-        TurnWheel x = of("wheel 100;fighter a left speed 1 life 9 plan rest 5;fighter b left speed 1 life 9 plan speed 1;"
-                + "fighter c left speed 1 life 9 plan speed 1;fighter e right speed 1 life 9 plan speed 1;");
+    private static TurnWheel swapAfter(int turns, boolean isMirrored) {
+        String text = "wheel 100;fighter a left speed 1 life 1 plan rest 5;fighter b left speed 1 life 1 plan speed 1;"
+                + "fighter c left speed 1 life 1 plan speed 1;fighter e right speed 1 life 1 plan speed 1;";
+        TurnWheel x = of(isMirrored ? mirrored(text) : text);
         script(x, lifts("e", 100 * turns + 99) + "lift c 100;");
         due(x.turn(turns - 1), 3);
         due(x.turn(turns), 2);
@@ -635,12 +639,14 @@ public final class Promises17To32Test extends Run {
 
     @Sentence("Promise 31: so that their side has the most life in all behind 20 turns that come")
     static void withWhomToSwap20TurnsAhead(TurnWheel x) {
-        due(swapAfter(18).bestSwap(0), 2);
-        due(swapAfter(19).bestSwap(0), 2);
-        due(swapAfter(20).bestSwap(0), -1);
-        due(swapAfter(19).bestSwap(2), 0);
-        due(swapAfter(19).bestSwap(1), -1);
-        due(swapAfter(19).bestSwap(3), -1);
+        due(swapAfter(18, false).bestSwap(0), 2);
+        due(swapAfter(19, false).bestSwap(0), 2);
+        due(swapAfter(20, false).bestSwap(0), -1);
+        due(swapAfter(19, false).bestSwap(2), 0);
+        due(swapAfter(19, false).bestSwap(1), -1);
+        due(swapAfter(19, false).bestSwap(3), -1);
+        due(swapAfter(19, true).bestSwap(0), 2);
+        due(swapAfter(20, true).bestSwap(0), -1);
     }
 
     @Sentence("Promise 31: would have to exchange gauges now")
@@ -712,9 +718,10 @@ public final class Promises17To32Test extends Run {
     // ---- 32
 
     /** Fighter e makes so many turns at once; then it is a's turn, who rests if it is at place 1. */
-    private static TurnWheel placeAfter(int turns) {
-        TurnWheel x = of("wheel 100;fighter a left speed 1 life 9 plan speed 1 rest 5;"
-                + "fighter e right speed 1 life 9 plan speed 1;");
+    private static TurnWheel placeAfter(int turns, boolean isMirrored) {
+        String text = "wheel 100;fighter a left speed 1 life 1 plan speed 1 rest 5;"
+                + "fighter e right speed 1 life 1 plan speed 1;";
+        TurnWheel x = of(isMirrored ? mirrored(text) : text);
         script(x, lifts("e", 100 * turns + 99) + "lift a 100;");
         due(x.turn(turns - 1), 1);
         due(x.turn(turns), 0);
@@ -723,10 +730,12 @@ public final class Promises17To32Test extends Run {
 
     @Sentence("Promise 32: its side would have the most life in all behind 20 turns that come")
     static void whereToStart20TurnsAhead(TurnWheel x) {
-        due(placeAfter(18).bestPlace(0), 1);
-        due(placeAfter(19).bestPlace(0), 1);
-        due(placeAfter(20).bestPlace(0), 0);
-        due(placeAfter(19).bestPlace(1), 0);
+        due(placeAfter(18, false).bestPlace(0), 1);
+        due(placeAfter(19, false).bestPlace(0), 1);
+        due(placeAfter(20, false).bestPlace(0), 0);
+        due(placeAfter(19, false).bestPlace(1), 0);
+        due(placeAfter(19, true).bestPlace(0), 1);
+        due(placeAfter(20, true).bestPlace(0), 0);
     }
 
     @Sentence("Promise 32: Returns the act i of the plan of a fighter")
@@ -744,6 +753,13 @@ public final class Promises17To32Test extends Run {
         due(x.fighter(0, 7), 1);
     }
 
+    @Sentence("Promise 32: Returns the act i of the plan of a fighter")
+    static void theBestPlaceOfAPlanThatHarms(TurnWheel x) {
+        // a turn that does nothing would be better, but no act does nothing
+        text(x, "wheel 100;fighter a left speed 99 life 900 plan speed 1;fighter b right speed 10 life 900 plan hit 5;");
+        due(x.bestPlace(0), 0);
+    }
+
     @Sentence("Promise 32: its side would have the most life in all")
     static void theLifeOfTheOtherSideDoesNotCount(TurnWheel x) {
         text(x, "wheel 100;fighter a left speed 1 life 9 plan hit 50 rest 1 hit 60;"
@@ -759,6 +775,10 @@ public final class Promises17To32Test extends Run {
         script(x, lifts("e", 1899) + "lift a 100;");
         due(x.bestPlace(0), 1);
         due(x.bestPlace(1), 0);
+        extras(x, 0, 3);
+        x.play(3);
+        due(x.fighter(0, 7), 3);
+        due(x.bestPlace(0), 1);
         x.setAct(0, 0, 6, 5);
         due(x.bestPlace(0), 0);
     }

@@ -22,6 +22,40 @@ public final class Promises33To40Test extends Run {
         }
     }
 
+    /** Fighter b of DUEL behind two turns and an extra one, with a gauge of 150. */
+    private static void inTheMiddle(TurnWheel x) {
+        text(x, DUEL);
+        x.extra(1);
+        x.play(3);
+        x.lift(1, 50);
+        row(what -> x.fighter(1, what), 1, 25, 2, 0, 150, 0, 0, 0, 1, 1, 1, 4);
+        row(what -> x.fighter(0, what), 0, 50, 16, 0, 0, 0, 0, 0, 1, 2, 0, 10);
+    }
+
+    @Sentence("Behind the terms: Ahead of the calls `play`, `push`, `lift`, `extra`, `setSpeed`, `heal`, `setWheel`,"
+            + " `setAct` the interface says: ---- changes.")
+    static void aChangeChangesOneNumberAlone(TurnWheel x) {
+        inTheMiddle(x);
+        x.push(1, 20);
+        row(what -> x.fighter(1, what), 1, 25, 2, 0, 130, 0, 0, 0, 1, 1, 1, 4);
+        x.lift(1, 7);
+        row(what -> x.fighter(1, what), 1, 25, 2, 0, 137, 0, 0, 0, 1, 1, 1, 4);
+        x.extra(1);
+        row(what -> x.fighter(1, what), 1, 25, 2, 0, 137, 0, 1, 0, 1, 1, 1, 4);
+        x.setSpeed(1, 77);
+        row(what -> x.fighter(1, what), 1, 77, 2, 0, 137, 0, 1, 0, 1, 1, 1, 4);
+        x.heal(1, 9);
+        row(what -> x.fighter(1, what), 1, 77, 11, 0, 137, 0, 1, 0, 1, 1, 1, 4);
+        x.setWheel(500);
+        row(what -> x.fighter(1, what), 1, 77, 11, 0, 137, 0, 1, 0, 1, 1, 1, 4);
+        x.setAct(1, 0, 3, 9);
+        row(what -> x.fighter(1, what), 1, 77, 11, 0, 137, 0, 1, 0, 1, 1, 1, 4);
+        row(what -> x.fighter(0, what), 0, 50, 16, 0, 0, 0, 0, 0, 1, 2, 0, 10);
+        row(x::setting, 2, 500, 4, 3, 2, 16, 11, -1, 0, 6);
+        x.setWheel(100);
+        row(what -> x.fighter(1, what), 1, 77, 11, 0, 137, 0, 1, 0, 1, 1, 1, 4);
+    }
+
     // ---- 33
 
     @Sentence("Promise 33: Makes turns, until so many were made or the fight is over.")
@@ -257,6 +291,13 @@ public final class Promises33To40Test extends Run {
         due(x.play(1), 1);
         due(x.fighter(1, 2), 0);
         due(x.heal(1, 999), 999);
+        text(x, "wheel 100;fighter a left speed 50 life 9 plan hit 10;"
+                + "fighter b right speed 40 life 9 luck 3 plan rest 1 rest 2;");
+        x.extra(1);
+        x.play(2);
+        due(x.fighter(1, 2), 0);
+        due(x.heal(1, 7), 7);
+        row(what -> x.fighter(1, what), 1, 40, 7, 3, 0, 0, 0, 1, 2, 1, 1, 0);
     }
 
     @Sentence("Promise 38: @throws IllegalArgumentException if by is out of range")
@@ -313,6 +354,9 @@ public final class Promises33To40Test extends Run {
         due(x.actKind(1, 0), 6);
         due(x.actNumber(1, 0), 7);
         due(x.fighter(0, 8), 6);
+        x.play(2);
+        due(x.setAct(0, 0, 5, 50), 3);
+        due(x.fighter(0, 7), 2);
         over(x);
         due(x.setAct(1, 0, 6, 9), 0);
     }

@@ -44,6 +44,11 @@ abstract class Run {
         return x;
     }
 
+    /** The same text with the sides exchanged. */
+    static String mirrored(String text) {
+        return text.replace(" left", " up").replace(" right", " left").replace(" up", " right");
+    }
+
     /** The text of fighters a, b, c and so on, all on the left. */
     static String fighters(int n) {
         StringBuilder all = new StringBuilder();

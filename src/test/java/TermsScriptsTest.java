@@ -70,14 +70,14 @@ public final class TermsScriptsTest extends Run {
             case 'D': return COMMANDS.contains(token) || token.equals(")");
             case 'A': return ACTS.contains(token);
             case 'N': return token.equals("7");
-            case 'F': return token.charAt(0) >= 'a';
+            case 'F': return token.charAt(0) >= 'a' && token.length() <= 8;
             default: return token.equals(String.valueOf(place));
         }
     }
 
     @Sentence("Terms 3: command = \"turn\" N | \"push\" NAME N")
     static void anotherTokenInAnyPlaceOfAScript(TurnWheel x) {
-        List<String> others = List.of("(", ")", ";", "7", "ann", "zed", "turn", "push", "extra", "wheel", "act", "repeat",
+        List<String> others = List.of("(", ")", ";", "7", "1000", "ann", "zed", "abcdefghi", "turn", "push", "extra", "wheel", "act", "repeat",
                 "hit", "rest", "fighter", "A");
         due(PLACES.length(), TOKENS.length);
         for (int n = 0; n < TOKENS.length; n++) {
@@ -106,6 +106,8 @@ public final class TermsScriptsTest extends Run {
         text(x, TWO);
         due(script(x, "\n repeat2 ( lift\nann5 ; )\n;lift ann 07;"), 3);
         due(x.fighter(0, 4), 17);
+        due(script(x, " ".repeat(589) + "lift ann 1;"), 1);
+        due(x.fighter(0, 4), 18);
         wrong("lift ann 1;#", 1, 11);
         wrong("lift ann\t1;", 1, 8);
         wrong("lift ann 0001;", 1, 9);

@@ -80,12 +80,12 @@ public final class TermsTextTest extends Run {
 
     @Sentence("Terms 1: a token (or the end of the text) that the grammar does not allow here")
     static void anotherTokenInAnyPlace(TurnWheel x) {
-        List<String> others = List.of("(", ")", ";", "7", "zed", "wheel", "fighter", "left", "right", "speed", "life",
+        List<String> others = List.of("(", ")", ";", "7", "1000", "zed", "abcdefghi", "#", "wheel", "fighter", "left", "right", "speed", "life",
                 "luck", "plan", "hit", "push", "lift", "guard", "again", "rest", "turn", "repeat");
         for (int n = 0; n < TOKENS.length; n++) {
             String before = String.join(" ", Arrays.copyOf(TOKENS, n)) + " ";
             for (String other : others) {
-                boolean isWord = other.charAt(0) >= 'a';
+                boolean isWord = other.charAt(0) >= 'a' && other.length() <= 8;
                 if (n == 4 ? !isWord : !rightAt(n).contains(other)) {
                     wrongText(before + other + " ;", 1, before.length());
                 }
@@ -268,6 +268,23 @@ public final class TermsTextTest extends Run {
         due(text(x, fighters(8) + "wheel 999;"), 8);
         for (int i = 0; i < 8; i++) {
             due(name(x, i), String.valueOf((char) ('a' + i)));
+        }
+    }
+
+    @Sentence("Terms 1: the plan: 1 to 6 acts, numbered from 0")
+    static void eightFightersOfSixActs(TurnWheel x) {
+        StringBuilder text = new StringBuilder("wheel 999;");
+        for (int i = 1; i <= 8; i++) {
+            text.append("fighter ").append("x".repeat(i)).append(" right speed").append(i).append("life").append(i)
+                    .append("luck").append(i).append("plan hit1push2lift3guard4again3rest").append(i).append(";");
+        }
+        due(text(x, text.toString()), 8);
+        for (int i = 1; i <= 8; i++) {
+            int f = i - 1;
+            due(name(x, f), "x".repeat(i));
+            row(what -> x.fighter(f, what), 1, f + 1, f + 1, f + 1, 0, 0, 0, 0, 6);
+            row(act -> x.actKind(f, act), 0, 1, 2, 3, 4, 6, -1);
+            row(act -> x.actNumber(f, act), 1, 2, 3, 4, 3, f + 1, -1);
         }
     }
 

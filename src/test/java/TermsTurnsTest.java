@@ -49,6 +49,31 @@ public final class TermsTurnsTest extends Run {
         due(x.ticksTo(0), 2);
     }
 
+    @Sentence("Terms 2: A fighter lives as long as its life is above 0.")
+    static void aFightOfLivesOf1(TurnWheel x) {
+        text(x, "wheel 100;fighter a left speed 20 life 1 plan push 30;fighter b left speed 10 life 1 plan lift 40;"
+                + "fighter c right speed 10 life 1 plan guard 7;fighter d right speed 40 life 1 plan hit 7;");
+        row(x::setting, 4, 100, 0, 0, 4, 2, 2, -1, 0, 0);
+        row(x::ticksTo, 5, 10, 10, 3);
+        row(x::row, 3, 0, 1, 2, -1);
+        due(x.meanSpeed(), 20.0);
+        due(x.share(), 0.5f);
+        due(x.bestPush(0, 1), 2);
+        row(x::turn, 3, 3, -1);
+        due(x.endsIn(), 2);
+        x.lift(2, 50);
+        act(x, 0);
+        act(x, 1);
+        act(x, 2);
+        row(f -> x.fighter(f, 4), 40, 0, 20, 0);
+        due(x.fighter(2, 5), 7);
+        act(x, 3);
+        due(x.fighter(0, 2), 0);
+        due(x.setting(8), 0);
+        act(x, 3);
+        due(x.setting(7), 1);
+    }
+
     @Sentence("Terms 2: The fight is over if not both sides have a fighter who lives.")
     static void whenAFightIsOver(TurnWheel x) {
         due(x.setting(8), 1);
@@ -79,10 +104,11 @@ public final class TermsTurnsTest extends Run {
     static void extraTurnsOfTheLowestNumber(TurnWheel x) {
         text(x, THREE);
         x.lift(2, 500);
-        x.extra(2);
+        extras(x, 2, 2);
         x.extra(1);
-        x.extra(1);
-        row(x::turn, 1, 1, 2);
+        row(x::turn, 1, 2, 2);
+        x.extra(0);
+        row(x::turn, 0, 1, 2, 2);
     }
 
     @Sentence("Terms 2: if there are none, of those who live and whose gauge is at least the wheel")
@@ -331,6 +357,17 @@ public final class TermsTurnsTest extends Run {
         row(f -> x.fighter(f, 4), 0, 30, 20, 20, 99);
     }
 
+    @Sentence("Terms 2: push: of the fighters of the other side")
+    static void pushOfTheLeftSide(TurnWheel x) {
+        text(x, mirrored("wheel 100;fighter a left speed 1 life 9 plan push 70;fighter b right" + SLOW + "fighter c right"
+                + SLOW + "fighter e left" + SLOW));
+        x.lift(1, 80);
+        x.lift(2, 90);
+        x.lift(3, 99);
+        act(x, 0);
+        row(f -> x.fighter(f, 4), 0, 80, 20, 99);
+    }
+
     @Sentence("Terms 2: its gauge becomes N less, but not below 0")
     static void pushNotBelow0(TurnWheel x) {
         int[] gauges = {0, 1, 69, 70, 71, 150};
@@ -357,6 +394,16 @@ public final class TermsTurnsTest extends Run {
         row(f -> x.fighter(f, 4), 0, 30, 80, 80, 0);
         act(x, 0);
         row(f -> x.fighter(f, 4), 0, 100, 80, 80, 0);
+    }
+
+    @Sentence("Terms 2: lift: of the other fighters of its side")
+    static void liftOfTheRightSide(TurnWheel x) {
+        text(x, mirrored("wheel 100;fighter e right" + SLOW + "fighter b left" + SLOW + "fighter c left" + SLOW
+                + "fighter a left speed 1 life 9 plan lift 70;"));
+        x.lift(1, 30);
+        x.lift(2, 10);
+        act(x, 3);
+        row(f -> x.fighter(f, 4), 0, 30, 80, 0);
     }
 
     @Sentence("Terms 2: its gauge becomes N more, but at most 9999")
