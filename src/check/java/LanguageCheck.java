@@ -20,8 +20,8 @@ import java.util.spi.ToolProvider;
 import java.util.stream.Collectors;
 
 /**
- * The rules of ../shared/LANGUAGE.md that can be seen from the class or from its text. It looks at how the class is made
- * and not at what its calls answer, so it is no test of the project: see .ci/language.
+ * The rules of ../shared/LANGUAGE.md that can be seen from the class or from its text. It looks at how the class is
+ * made and not at what its calls answer, so it is no test of the project: see .ci/language.
  */
 public final class LanguageCheck {
     private static final Path PROGRAM = Path.of("src/main/java/TurnWheel.java");
@@ -204,7 +204,8 @@ public final class LanguageCheck {
                 method = inside + "." + start.group(1).replace(inside, "\"<init>\"");
             } else if (call.matches()) {
                 String called = call.group(1).replace('/', '.');
-                CALLS.computeIfAbsent(method, m -> new TreeSet<>()).add(called.contains(".") ? called : inside + "." + called);
+                CALLS.computeIfAbsent(method, m -> new TreeSet<>())
+                        .add(called.contains(".") ? called : inside + "." + called);
             }
         }
         yes("calls are seen", CALLS.size() > 100);

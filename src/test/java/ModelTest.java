@@ -111,7 +111,8 @@ public final class ModelTest {
             }
             if (i < fighters) {
                 all.append("fighter ").append(NAMES[(first + i) % NAMES.length])
-                        .append((mixed ? chance(50) : i % 2 == 0) ? " left" : " right").append(" speed").append(1 + below(chance(50) ? 20 : 99))
+                        .append((mixed ? chance(50) : i % 2 == 0) ? " left" : " right")
+                        .append(" speed").append(1 + below(chance(50) ? 20 : 99))
                         .append(" life").append(1 + below(life));
                 if (chance(40)) {
                     all.append(" luck").append(below(10));

@@ -143,7 +143,8 @@ public final class Promises01To07Test extends Run {
     @Sentence("Promise 4: Reads the whole buffer as a text, which replaces all that there is but what is saved and the"
             + " latest report (the time is 0, no turns were made)")
     static void aTextReplacesAll(TurnWheel x) {
-        text(x, "wheel 123;" + BOB + "fighter c left speed 9 life 9 luck 9 plan again 3 guard 9 rest 1 rest 2 rest 3 rest 4;"
+        text(x, "wheel 123;" + BOB
+                + "fighter c left speed 9 life 9 luck 9 plan again 3 guard 9 rest 1 rest 2 rest 3 rest 4;"
                 + "fighter d right speed 1 life 1 plan hit 1;");
         x.extra(1);
         x.play(9);
@@ -215,8 +216,8 @@ public final class Promises01To07Test extends Run {
 
     // ---- 5
 
-    @Sentence("Promise 5: Reads the whole buffer as a script, empties the buffer, also if the text has an error, and runs"
-            + " the script.")
+    @Sentence("Promise 5: Reads the whole buffer as a script, empties the buffer, also if the text has an error, and"
+            + " runs the script.")
     static void aScriptEmptiesTheBuffer(TurnWheel x) {
         text(x, ANN + BOB);
         due(script(x, "lift ann 7;"), 1);
@@ -260,8 +261,8 @@ public final class Promises01To07Test extends Run {
 
     // ---- 6 and 7
 
-    @Sentence("Promise 6: Returns the code of the error of the latest readText() or runScript(); 0 if there was none or no"
-            + " such call.")
+    @Sentence("Promise 6: Returns the code of the error of the latest readText() or runScript(); 0 if there was none"
+            + " or no such call.")
     static void theLatestError(TurnWheel x) {
         due(x.errorCode(), 0);
         fed(x, "wheel 99;");

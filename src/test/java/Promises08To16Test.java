@@ -81,8 +81,8 @@ public final class Promises08To16Test extends Run {
 
     // ---- 9
 
-    @Sentence("Promise 9: 0 the side, 1 the speed, 2 the life, 3 the luck, 4 the gauge, 5 the guard, 6 the extra turns, 7"
-            + " the place in the plan, 8 how many acts the plan has")
+    @Sentence("Promise 9: 0 the side, 1 the speed, 2 the life, 3 the luck, 4 the gauge, 5 the guard, 6 the extra"
+            + " turns, 7 the place in the plan, 8 how many acts the plan has")
     static void numbersOfFighters(TurnWheel x) {
         text(x, FIVE);
         row(what -> x.fighter(0, what), 0, 10, 30, 2, 0, 0, 0, 0, 2, 0, 0, 0);
@@ -188,8 +188,8 @@ public final class Promises08To16Test extends Run {
 
     // ---- 13
 
-    @Sentence("Promise 13: Returns how many ticks it takes until the gauge of a fighter is at least the wheel, if nobody"
-            + " makes a turn; 0 if it is")
+    @Sentence("Promise 13: Returns how many ticks it takes until the gauge of a fighter is at least the wheel, if"
+            + " nobody makes a turn; 0 if it is")
     static void ticksToTheWheel(TurnWheel x) {
         text(x, FIVE);
         row(x::ticksTo, 10, 5, 4, 5, 5);

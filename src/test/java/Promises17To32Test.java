@@ -229,8 +229,8 @@ public final class Promises17To32Test extends Run {
 
     // ---- 24 to 26
 
-    @Sentence("Promise 24: Returns behind how many turns that come the fight is over, 0 if it is; NONE if it is not within"
-            + " 200.")
+    @Sentence("Promise 24: Returns behind how many turns that come the fight is over, 0 if it is; NONE if it is not"
+            + " within 200.")
     static void whenItEnds(TurnWheel x) {
         due(x.endsIn(), 0);
         due(of(SOLE).endsIn(), 0);
@@ -284,8 +284,8 @@ public final class Promises17To32Test extends Run {
         due(x.winner(), 0);
     }
 
-    @Sentence("Promise 26: Returns which turn that comes, from 1, is the first in which a fighter loses life, up to 200;"
-            + " NONE if there is none such.")
+    @Sentence("Promise 26: Returns which turn that comes, from 1, is the first in which a fighter loses life, up to"
+            + " 200; NONE if there is none such.")
     static void theFirstLoss(TurnWheel x) {
         text(x, DUEL);
         due(x.firstLoss(0), 3);
@@ -333,8 +333,8 @@ public final class Promises17To32Test extends Run {
                 + "fighter b right speed 50 life 9 plan speed 50;";
     }
 
-    @Sentence("Promise 27: behind which all fighters (those who do not live, too) have the same life, speed, gauge, guard,"
-            + " extra turns and place in the plan as behind some fewer turns (0: now)")
+    @Sentence("Promise 27: behind which all fighters (those who do not live, too) have the same life, speed, gauge,"
+            + " guard, extra turns and place in the plan as behind some fewer turns (0: now)")
     static void allComesAgain(TurnWheel x) {
         text(x, ROUND);
         repeats(x, 6, 4);
@@ -361,7 +361,8 @@ public final class Promises17To32Test extends Run {
 
     @Sentence("Promise 27: have the same life, speed, gauge")
     static void onlyTheGaugeIsAnother(TurnWheel x) {
-        text(x, "wheel 100;fighter a left speed 50 life 9 plan speed 50;fighter b right speed 25 life 9 plan speed 25;");
+        text(x, "wheel 100;fighter a left speed 50 life 9 plan speed 50;"
+                + "fighter b right speed 25 life 9 plan speed 25;");
         repeats(x, 3, 3);
         x.lift(1, 1);
         repeats(x, 3, 3);
@@ -532,14 +533,15 @@ public final class Promises17To32Test extends Run {
     @Sentence("Promise 30: whose gauge would have to be less by so much now (not below 0)")
     static void aPushNotBelow0(TurnWheel x) {
         // b is there in 5 ticks even if it is at 0, before c in 7: so nobody's push is any good
-        text(x, "wheel 100;fighter a left speed 1 life 900 plan speed 1;fighter c right speed 15 life 900 plan speed 15;"
+        text(x, "wheel 100;fighter a left speed 1 life 900 plan speed 1;"
+                + "fighter c right speed 15 life 900 plan speed 15;"
                 + "fighter b right speed 20 life 900 plan hit 50;");
         script(x, lifts("a", 1900) + "lift b 10;");
         due(x.bestPush(0, 100), 1);
         x.lift(2, 10);
         x.push(1, 15);
         x.lift(1, 40);
-        // c in 4 ticks; b, now in 4, is pushed to 5
+        // both would be there in 4 ticks, c with the lower number; b comes first only if c is pushed
         due(x.bestPush(0, 10), 2);
     }
 
@@ -756,7 +758,8 @@ public final class Promises17To32Test extends Run {
     @Sentence("Promise 32: Returns the act i of the plan of a fighter")
     static void theBestPlaceOfAPlanThatHarms(TurnWheel x) {
         // a turn that does nothing would be better, but no act does nothing
-        text(x, "wheel 100;fighter a left speed 99 life 900 plan speed 1;fighter b right speed 10 life 900 plan hit 5;");
+        text(x, "wheel 100;fighter a left speed 99 life 900 plan speed 1;"
+                + "fighter b right speed 10 life 900 plan hit 5;");
         due(x.bestPlace(0), 0);
     }
 
@@ -785,7 +788,8 @@ public final class Promises17To32Test extends Run {
 
     @Sentence("Promise 32: (whether it lives or not)")
     static void theBestPlaceOfOneWhoDoesNotLive(TurnWheel x) {
-        text(x, "wheel 100;fighter a left speed 1 life 1 plan speed 1 rest 9;fighter b right speed 50 life 9 plan hit 1;"
+        text(x, "wheel 100;fighter a left speed 1 life 1 plan speed 1 rest 9;"
+                + "fighter b right speed 50 life 9 plan hit 1;"
                 + "fighter c left speed 1 life 999 plan speed 1;");
         due(x.bestPlace(0), 0);
         x.play(1);

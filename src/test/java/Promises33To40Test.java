@@ -109,8 +109,8 @@ public final class Promises33To40Test extends Run {
         state(() -> x.play(1));
     }
 
-    @Sentence("Promise 33: or more than 9999 turns would be made in all (by so many, whether the fight is over before or"
-            + " not)")
+    @Sentence("Promise 33: or more than 9999 turns would be made in all (by so many, whether the fight is over"
+            + " before or not)")
     static void theBoundOfTurns(TurnWheel x) {
         text(x, ROUND);
         for (int n = 0; n < 100; n++) {

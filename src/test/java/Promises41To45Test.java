@@ -109,7 +109,8 @@ public final class Promises41To45Test extends Run {
 
     // ---- 43
 
-    @Sentence("Promise 43: Undoes the latest call that can be undone. @return the number of calls that can still be undone")
+    @Sentence("Promise 43: Undoes the latest call that can be undone. @return the number of calls that can still be"
+            + " undone")
     static void theLatestCallIsUndone(TurnWheel x) {
         text(x, TWO);
         x.play(1);
@@ -142,8 +143,8 @@ public final class Promises41To45Test extends Run {
 
     // ---- 44 and 45
 
-    @Sentence("Promise 44: Saves all but the buffer, the error, the report, what can be undone and what is saved, in place"
-            + " of an earlier one. @return the time")
+    @Sentence("Promise 44: Saves all but the buffer, the error, the report, what can be undone and what is saved, in"
+            + " place of an earlier one. @return the time")
     static void aLaterStateInPlaceOfAnEarlierOne(TurnWheel x) {
         text(x, TWO);
         due(x.save(), 0);
@@ -206,8 +207,9 @@ public final class Promises41To45Test extends Run {
         x.play(3);
         x.save();
         String saved = fight(x);
-        text(x, "wheel 999;fighter zed right speed 1 life 1 luck 9 plan rest 1 rest 2 rest 3 rest 4 rest 5 rest 6;" + DUEL
-                .substring(10));
+        text(x, "wheel 999;"
+                + "fighter zed right speed 1 life 1 luck 9 plan rest 1 rest 2 rest 3 rest 4 rest 5 rest 6;"
+                + DUEL.substring(10));
         x.play(2);
         due(x.restore(), 4);
         due(fight(x), saved);

@@ -77,8 +77,8 @@ public final class TermsScriptsTest extends Run {
 
     @Sentence("Terms 3: command = \"turn\" N | \"push\" NAME N")
     static void anotherTokenInAnyPlaceOfAScript(TurnWheel x) {
-        List<String> others = List.of("(", ")", ";", "7", "1000", "ann", "zed", "abcdefghi", "turn", "push", "extra", "wheel", "act", "repeat",
-                "hit", "rest", "fighter", "A");
+        List<String> others = List.of("(", ")", ";", "7", "1000", "ann", "zed", "abcdefghi", "turn", "push",
+                "extra", "wheel", "act", "repeat", "hit", "rest", "fighter", "A");
         due(PLACES.length(), TOKENS.length);
         for (int n = 0; n < TOKENS.length; n++) {
             String before = String.join(" ", Arrays.copyOf(TOKENS, n)) + " ";
@@ -202,8 +202,8 @@ public final class TermsScriptsTest extends Run {
 
     // ---- where a script ends
 
-    @Sentence("Terms 3: A script ends as a whole at a command whose method would throw an exception or return false; the"
-            + " commands before stay done, and it is not counted.")
+    @Sentence("Terms 3: A script ends as a whole at a command whose method would throw an exception or return false;"
+            + " the commands before stay done, and it is not counted.")
     static void aCommandThatIsRefused(TurnWheel x) {
         for (String command : REFUSED) {
             TurnWheel y = of(TWO);

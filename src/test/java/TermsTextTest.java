@@ -80,8 +80,9 @@ public final class TermsTextTest extends Run {
 
     @Sentence("Terms 1: a token (or the end of the text) that the grammar does not allow here")
     static void anotherTokenInAnyPlace(TurnWheel x) {
-        List<String> others = List.of("(", ")", ";", "7", "1000", "zed", "abcdefghi", "#", "wheel", "fighter", "left", "right", "speed", "life",
-                "luck", "plan", "hit", "push", "lift", "guard", "again", "rest", "turn", "repeat");
+        List<String> others = List.of("(", ")", ";", "7", "1000", "zed", "abcdefghi", "#", "wheel",
+                "fighter", "left", "right", "speed", "life", "luck", "plan", "hit", "push", "lift", "guard", "again", "rest",
+                "turn", "repeat");
         for (int n = 0; n < TOKENS.length; n++) {
             String before = String.join(" ", Arrays.copyOf(TOKENS, n)) + " ";
             for (String other : others) {
@@ -119,7 +120,8 @@ public final class TermsTextTest extends Run {
 
     @Sentence("Terms 1: A word is a maximal run of letters a to z, at most 8 of them")
     static void aWordOf8Letters(TurnWheel x) {
-        due(text(x, "fighter abcdefgh left speed 1 life 1 plan hit 1;fighter abcdefgz left speed 1 life 1 plan hit 1;"), 2);
+        due(text(x, "fighter abcdefgh left speed 1 life 1 plan hit 1;"
+                + "fighter abcdefgz left speed 1 life 1 plan hit 1;"), 2);
         due(name(x, 0), "abcdefgh");
         due(name(x, 1), "abcdefgz");
     }

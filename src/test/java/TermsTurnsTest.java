@@ -24,7 +24,8 @@ public final class TermsTurnsTest extends Run {
     @Sentence("Terms 2: Each fighter has a gauge (0 at first), a guard (0 at first), extra turns (0 at first) and a"
             + " place in its plan (0 at first).")
     static void allIs0AtFirst(TurnWheel x) {
-        text(x, "wheel 100;fighter a left speed 60 life 9 plan guard 5 again 3;fighter b right speed 50 life 9 plan rest 1;");
+        text(x, "wheel 100;fighter a left speed 60 life 9 plan guard 5 again 3;"
+                + "fighter b right speed 50 life 9 plan rest 1;");
         x.play(3);
         x.lift(0, 7);
         text(x, THREE);
@@ -291,8 +292,8 @@ public final class TermsTurnsTest extends Run {
         due(x.setting(6), 4);
     }
 
-    @Sentence("Terms 2: loses as much life as N is above its guard, which stays (nothing if it is not, and no more than it"
-            + " has)")
+    @Sentence("Terms 2: loses as much life as N is above its guard, which stays (nothing if it is not, and no more"
+            + " than it has)")
     static void hitAboveTheGuard(TurnWheel x) {
         text(x, "wheel 100;fighter a left speed 50 life 9 plan hit 5 hit 6 hit 7 hit 99;"
                 + "fighter b right speed 1 life 200 plan guard 6;");
@@ -319,7 +320,8 @@ public final class TermsTurnsTest extends Run {
 
     @Sentence("Terms 2: If it has none left, its life, gauge, guard and extra turns become 0.")
     static void whatOneWhoFallsKeeps(TurnWheel x) {
-        text(x, "wheel 100;fighter a left speed 50 life 9 plan hit 5;fighter b right speed 40 life 3 luck 4 plan guard 2 rest 1;"
+        text(x, "wheel 100;fighter a left speed 50 life 9 plan hit 5;"
+                + "fighter b right speed 40 life 3 luck 4 plan guard 2 rest 1;"
                 + "fighter c right speed 1 life 9 plan rest 1;");
         act(x, 1);
         x.lift(1, 77);
@@ -332,7 +334,8 @@ public final class TermsTurnsTest extends Run {
 
     @Sentence("Terms 2: If it has none left, its life, gauge, guard and extra turns become 0.")
     static void oneWithALifeOf1LeftKeepsAll(TurnWheel x) {
-        text(x, "wheel 100;fighter a left speed 50 life 9 plan hit 5;fighter b right speed 40 life 4 plan guard 2 rest 1;");
+        text(x, "wheel 100;fighter a left speed 50 life 9 plan hit 5;"
+                + "fighter b right speed 40 life 4 plan guard 2 rest 1;");
         act(x, 1);
         x.lift(1, 77);
         x.extra(1);
@@ -342,8 +345,8 @@ public final class TermsTurnsTest extends Run {
 
     // ---- push and lift
 
-    @Sentence("Terms 2: push: of the fighters of the other side who live the one with the greatest gauge, of several the"
-            + " lowest number")
+    @Sentence("Terms 2: push: of the fighters of the other side who live the one with the greatest gauge, of several"
+            + " the lowest number")
     static void pushOfTheGreatestGauge(TurnWheel x) {
         text(x, "wheel 100;fighter a left speed 1 life 9 plan push 70;fighter b right" + SLOW + "fighter c right" + SLOW
                 + "fighter d right" + SLOW + "fighter e left" + SLOW);
@@ -359,7 +362,8 @@ public final class TermsTurnsTest extends Run {
 
     @Sentence("Terms 2: push: of the fighters of the other side")
     static void pushOfTheLeftSide(TurnWheel x) {
-        text(x, mirrored("wheel 100;fighter a left speed 1 life 9 plan push 70;fighter b right" + SLOW + "fighter c right"
+        text(x, mirrored("wheel 100;fighter a left speed 1 life 9 plan push 70;"
+                + "fighter b right" + SLOW + "fighter c right"
                 + SLOW + "fighter e left" + SLOW));
         x.lift(1, 80);
         x.lift(2, 90);

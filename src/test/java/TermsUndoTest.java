@@ -309,7 +309,8 @@ public final class TermsUndoTest extends Run {
             + " else")
     static void whatComesIsWhatIsThereThen(TurnWheel x) {
         String text = "wheel 150;fighter a left speed 35 life 40 luck 3 plan hit 9 push 80 speed 60 guard 4;"
-                + "fighter b right speed 35 life 60 plan lift 70 hit 7 again 2;fighter c left speed 20 life 9 plan rest 3 hit 2;"
+                + "fighter b right speed 35 life 60 plan lift 70 hit 7 again 2;"
+                + "fighter c left speed 20 life 9 plan rest 3 hit 2;"
                 + "fighter d right speed 50 life 20 plan guard 5 hit 8 rest 2;";
         text(x, text);
         x.extra(2);
@@ -380,7 +381,8 @@ public final class TermsUndoTest extends Run {
 
     @Sentence("Behind the terms: the bound of the number of turns does not matter then")
     static void whatComesBehindTheBoundOfTurns(TurnWheel x) {
-        text(x, "wheel 100;fighter a left speed 50 life 9 plan guard 5;fighter b right speed 50 life 9 plan guard 5 guard 7;");
+        text(x, "wheel 100;fighter a left speed 50 life 9 plan guard 5;"
+                + "fighter b right speed 50 life 9 plan guard 5 guard 7;");
         for (int n = 0; n < 101; n++) {
             x.play(99);
         }
