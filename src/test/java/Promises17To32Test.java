@@ -393,6 +393,22 @@ public final class Promises17To32Test extends Run {
         repeats(of(against("speed 50 speed 50 speed 50 speed 50 speed 50 speed 50", "9")), 12, 12);
     }
 
+    @Sentence("Promise 27: have the same life, speed, gauge, guard, extra turns and place in the plan")
+    static void twoNumbersAreOthers(TurnWheel x) {
+        // an extra turn at place 0, or none at place 4
+        text(x, against("speed 50 speed 50 speed 50 speed 50 speed 50 speed 50", "9"));
+        x.extra(0);
+        repeats(x, 13, 12);
+        // each round takes 1 of a's gauge, and its guard is great
+        text(x, "wheel 100;fighter a left speed 50 life 9 plan guard 70;fighter b right speed 50 life 9 plan push 1;");
+        x.lift(0, 10);
+        repeats(x, 22, 2);
+        // each round of 6 turns adds 1 to a's life, and its speed is great
+        text(x, "wheel 100;fighter a left speed 75 life 990 plan rest 1 speed 75 speed 75;"
+                + "fighter b right speed 75 life 9 plan speed 75;");
+        repeats(x, 55, 6);
+    }
+
     @Sentence("Promise 27: all fighters (those who do not live, too)")
     static void oneWhoFellIsAnotherThanBefore(TurnWheel x) {
         text(x, "wheel 100;fighter a left speed 50 life 9 plan hit 1;fighter b right speed 50 life 9 plan guard 99;"
