@@ -372,6 +372,14 @@ public final class Promises17To32Test extends Run {
         repeats(x, 4, 3);
     }
 
+    @Sentence("Promise 27: have the same life, speed, gauge")
+    static void aGreatGaugeIsAnotherThanASmallOne(TurnWheel x) {
+        // a makes 64 turns at time 0, to a gauge of 100 and a speed of 51; in 128 ticks it makes 51 and b one more
+        text(x, "wheel 128;fighter a left speed 50 life 9 plan speed 51;fighter b right speed 1 life 9 plan lift 1;");
+        script(x, lifts("a", 100 + 64 * 128));
+        repeats(x, 116, 52);
+    }
+
     @Sentence("Promise 27: have the same life, speed, gauge, guard")
     static void onlyTheGuardIsAnother(TurnWheel x) {
         repeats(of(against("guard 5", "9")), 3, 2);
